@@ -986,9 +986,7 @@ public final class CastOffs {
         /** 'given' is the set of houses whose part is taken already, 'hope' what the sum can be at most. */
         private void chooseGiver(int h, int given, int hope) {
             if (h >= houses) {
-                if (hope > bestSum) {
-                    chooseThrown(0, 0);
-                }
+                chooseThrown(0, hope);
                 return;
             }
             if ((given >> h & 1) == 0) {
@@ -1004,42 +1002,44 @@ public final class CastOffs {
             }
         }
 
-        private void chooseThrown(int h, int sum) {
+        /** At the end the hope is the sum; one that is not above the best so far comes behind it. */
+        private void chooseThrown(int h, int hope) {
+            if (hope <= bestSum) {
+                return;
+            }
             if (h >= houses) {
-                if (sum > bestSum) {
-                    remember(sum);
-                }
+                remember(hope);
                 return;
             }
             if (giver[h] == h) {
                 thrown[h] = NONE;
-                chooseThrown(h + 1, sum);
+                chooseThrown(h + 1, hope);
                 return;
             }
             for (int i = 0; i < choiceCount[h]; i++) {
                 thrown[h] = choices[h * HOUSE_ROOM + i];
-                int more = settledBy(h);
-                if (more != NONE) {
-                    chooseThrown(h + 1, sum + more);
+                int less = hopeLostBy(h);
+                if (less != NONE) {
+                    chooseThrown(h + 1, hope - less);
                 }
             }
         }
 
-        /** What the takings whose two houses are now both settled bring; NONE if one is not better by it. */
-        private int settledBy(int h) {
-            int sum = 0;
+        /** How far the takings that are settled by h's throwing stay behind; NONE if one is not better by it. */
+        private int hopeLostBy(int h) {
+            int less = 0;
             for (int taker = 0; taker <= h; taker++) {
                 int g = giver[taker];
                 boolean settled = g != taker && g <= h && (taker == h || g == h);
                 if (settled) {
-                    int more = stock.betterBy(taker, thrown[taker], thrown[g]);
-                    if (more <= 0) {
+                    int better = stock.betterBy(taker, thrown[taker], thrown[g]);
+                    if (better <= 0) {
                         return NONE;
                     }
-                    sum += more;
+                    less += mostFrom[taker * HOUSES + g] - better;
                 }
             }
-            return sum;
+            return less;
         }
 
         private void remember(int sum) {
