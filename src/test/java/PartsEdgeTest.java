@@ -206,6 +206,10 @@ public final class PartsEdgeTest {
                 "! week(MAX) = OUTSIDE", "week(1) = 2", "told(4) = 1", "week(99) = 1", "told(4) = 100");
         Rows.edge("n WEEKS at once are n WEEKS one by one", FOUR, "ashore(1) = 7", "ashore(0) = 8", "week(3) = 4", "begin() = 3",
                 "ashore(1) = 7", "ashore(0) = 8", "week(1) = 3", "week(1) = 1", "week(1) = 0");
+        Rows.edge("n WEEKS in which nothing is thrown out", "sorts 4;house 1;worth 0 0 4;worth 0 1 3;worth 0 2 2;worth 0 3 1;", "ashore(0) = 0",
+                "ashore(1) = 1", "ashore(2) = 2", "ashore(3) = 3", "week(3) = 3", "told(7) = 1", "week(2) = 1", "told(4) = 5");
+        Rows.edge("n WEEKS in which nothing is taken at first", "sorts 2;house 1 1 1 1 1;worth 0 0 4;worth 0 1 3;", "ashore(0) = 4", "week(2) = 1",
+                "told(4) = 2");
         Rows.edge("how many takings there were: none", "sorts 1;house 1 0;", "week(1) = 0", "week(99) = 0", "told(4) = 100");
         Rows.edge("the PART of the greatest GAIN, not the first", "sorts 2;house 1;worth 0 0 1;worth 0 1 2;", "ashore(0) = 0", "ashore(1) = 1",
                 "week(1) = 1", "part(1, 1) = 0", "part(0, 1) = NONE");

@@ -160,6 +160,8 @@ public final class SpitEdgeTest {
         Rows.faultAt("a fifth PART of a HOUSE, at its K", 4, 27, "sorts 1;house 0 0 0 0 0    0 0 0;");
         Rows.faultAt("a fifth PART of a HOUSE, whatever stands behind it", 4, 24, "sorts 1;house 0 0 0 0 0 0x");
         Rows.faultAt("a fifth PART of a later HOUSE", 4, 34, "sorts 1;house 0 0;house 0 0 0 0 0 0;");
+        Rows.faultAt("a fifth PART of the fifth HOUSE, the 21st of all", 4, 82,
+                "sorts1;house0 0 0 0 0;house0 0 0 0 0;house0 0 0 0 0;house0 0 0 0 0;house0 0 0 0 0 0;");
         Rows.sound("PARTS are counted for each HOUSE by itself", 8, "sorts 1;house 0 0 0 0 0;house 0 0 0 0 0;");
     }
 
@@ -245,6 +247,10 @@ public final class SpitEdgeTest {
     private static void cannotStand() {
         Rows.promise("section 1: FAULT 1");
         Rows.faultAt("a word that cannot: at its first letter", 1, 9, "sorts 1; horse 1;");
+        Rows.faultAt("a word that is like one but for its first letter", 1, 0, "torts 1;");
+        Rows.faultAt("a word that is like one but for its first letter", 1, 8, "sorts 1;mouse 1;");
+        Rows.faultAt("a word that is like one but for its first letter", 1, 16, "sorts 1;house 1;forth 0 0 0;");
+        Rows.faultAt("a word that is like one but for its last letter", 1, 8, "sorts 1;housf 1;");
         Rows.faultAt("a word too short", 1, 8, "sorts 1;hous 1;");
         Rows.faultAt("a word too long", 1, 8, "sorts 1;worths 0 0 0;");
         Rows.faultAt("a word cut off by the end", 1, 8, "sorts 1;wort");

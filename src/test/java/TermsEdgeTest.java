@@ -135,6 +135,30 @@ public final class TermsEdgeTest {
         Rows.edge("asked in the midst of all", SPIT, rows.toArray(new String[0]));
     }
 
+    /** Five houses of four parts, six sorts: the last of each is looked at, and nothing past it. */
+    private static void atTheFull() {
+        Rows.promise("terms: at the full");
+        String most = "sorts6;house0 0 1 2 3;house25 1 2 3 4;house50 2 3 4 5;house75 3 4 5 0;house99 4 5 0 1;"
+                + "worth0 4 9;worth1 5 8;worth2 0 7;worth3 1 6;worth4 2 5;";
+        Rows.edge("what is told of the last HOUSE, SORT and PART", most, "told(0) = 6", "told(1) = 5", "told(2) = 20", "told(6) = 0",
+                "house(4, 0) = 99", "house(4, 1) = 4", "house(4, 2) = 0", "house(4, 3) = 51", "worth(4, 2) = 5", "worth(4, 5) = 0",
+                "part(19, 0) = 1", "part(19, 1) = 4", "hand(19, 0) = 4", "! house(5, 0) = UNKNOWN", "! worth(0, 6) = UNKNOWN",
+                "! part(20, 0) = UNKNOWN");
+        Rows.edge("RINGS of five HOUSES with four PARTS each", most, "! rings(NONE, 0) = 35", "rings(0, 0) = 2", "rings(0, 1) = 7", "rings(1, 0) = 7",
+                "rings(1, 1) = 11", "rings(2, 0) = 11", "rings(2, 1) = 15", "rings(3, 0) = 15", "rings(3, 1) = 19", "rings(4, 0) = 19",
+                "rings(4, 1) = 2");
+        Rows.edge("32 PARTS: who is FIRST", most, "12 x ashore(5)", "! first(31) = NONE", "toss(1, 4) = 3", "! first(31) = 1", "take(1, 31) = 4",
+                "part(31, 3) = 1", "! first(30) = NONE");
+        Rows.edge("32 PARTS: WEEKS", most, "12 x ashore(5)", "week(1) = 0", "told(6) = 31", "told(7) = 32", "week(1) = 5", "told(6) = 0",
+                "house(4, 2) = 5", "week(97) = 0", "told(4) = 99");
+        Rows.edge("31 and 32 PARTS: DOWN", most, "11 x ashore(5)", "! down(5, 2, 4) = 0", "! down(5, 20, NONE) = 0", "ashore(5) = 31",
+                "! down(5, 1, 4) = FULL");
+        Rows.edge("32 PARTS: CHAIN", most, "! chain(4, 2) = NONE", "12 x ashore(4)", "! chain(4, 2) = 1", "! chain(4, 4) = 0");
+        Rows.edge("32 PARTS: TO WAIT", most, "12 x ashore(4)", "! waits(4, 2, 0) = 9", "! waits(4, 2, 99) = NONE");
+        Rows.edge("32 PARTS: TURNS", most, "12 x ashore(2)", "! turnsAt(4, 0, NONE, 4, 0) = 0", "! turnsAt(0, 1, 4, 4, 0) = 0", "toss(4, 16) = 3",
+                "! turnsAt(4, 3, NONE, 4, 0) = 5", "! turnsAt(4, 3, NONE, 4, 1) = NONE", "! turnsAt(4, 3, NONE, 2, 1) = 20", "! turnsAt(0, 1, 4, 4, 1) = NONE");
+    }
+
     private static void lastCall() {
         Rows.promise("at most 512 calls");
         Rows.edge("the 512th call is answered as any other", "", "511 x drift(1) = NOT", "told(4) = 0");
@@ -149,6 +173,7 @@ public final class TermsEdgeTest {
         full();
         order();
         asked();
+        atTheFull();
         lastCall();
         Rows.end();
     }

@@ -106,6 +106,8 @@ public final class TriedEdgeTest {
                 "! rings(NONE, 0) = 0");
         Rows.edge("more WEALTH: it loses nothing by one that it has twice", "sorts 2;house 1 0 0;house 2 1;worth 0 0 9;worth 0 1 1;worth 1 0 1;",
                 "! rings(NONE, 0) = 2", "rings(0, 0) = 0");
+        Rows.edge("a HOUSE throws what it has now, not what it had", "sorts 3;house 1 0 1;house 2 2;worth 0 2 5;worth 1 0 2;worth 1 1 9;",
+                "rings(NONE, 0) = 14", "rings(0, 0) = 1", "toss(0, 1) = 1", "rings(NONE, 0) = 7", "rings(0, 0) = 0", "rings(1, 1) = 0");
         Rows.edge("PARTS that lie are in no RING", "sorts 2;house 1 0;house 2 1;worth 0 1 1;worth 1 0 1;", "toss(1, 1) = 0",
                 "! rings(NONE, 0) = 0", "! rings(0, 0) = NONE");
         Rows.edge("the greatest sum, though it is not the first", "sorts 3;house 1 0;house 2 1;house 3 2;worth 0 1 5;worth 1 0 5;worth 1 2 6;"
@@ -205,6 +207,10 @@ public final class TriedEdgeTest {
                 join(FOUR_ASHORE, "turnsAt(0, 1, NONE, 3, 0) = 10", "turnsAt(0, 1, NONE, 4, 0) = -10", "turnsAt(0, 1, NONE, 4, 1) = 3"));
         Rows.edge("4 PARTS at most: the second one has four", "sorts 5;house 1;house 2 4 4 4 4;house 3;" + RIVALS,
                 join(FOUR_ASHORE, "turnsAt(0, 1, NONE, 2, 0) = 40", "turnsAt(0, 1, NONE, 4, 0) = 70"));
+        Rows.edge("4 PARTS at most: the second one has three", "sorts 5;house 1;house 2 4 4 4;house 3;" + RIVALS,
+                join(FOUR_ASHORE, "turnsAt(0, 1, NONE, 2, 0) = 10", "turnsAt(0, 1, NONE, 4, 0) = 30"));
+        Rows.edge("a SORT that it took counts once", "sorts 1;house 1;house 2;house 3;worth 0 0 9;", "3 x ashore(0)",
+                "turnsAt(0, 1, NONE, 1, 0) = 9", "turnsAt(0, 1, NONE, 3, 0) = 9");
         Rows.edge("the 8 least PARTS: the eighth counts", three, "7 x ashore(4)", "ashore(0) = 7", "ashore(1) = 8", "turnsAt(0, 1, NONE, 1, 0) = 40",
                 "turnsAt(0, 1, NONE, 1, 1) = 7", "turnsAt(0, 1, NONE, 2, 0) = 40");
         Rows.edge("the 8 least PARTS: the ninth does not", three, "8 x ashore(4)", "ashore(0) = 8", "turnsAt(0, 1, NONE, 1, 0) = 0",
@@ -214,11 +220,15 @@ public final class TriedEdgeTest {
         Rows.edge("a YARD of a third one: only what lies there", "sorts 5;house 1 0;house 2 1;house 3 2;" + RIVALS, "toss(0, 0) = 0", "toss(1, 1) = 0",
                 "toss(2, 2) = 0", "ashore(3) = 3", "turnsAt(0, 1, 2, 2, 0) = 20", "turnsAt(0, 1, 2, 2, 1) = 2", "turnsAt(0, 1, NONE, 1, 1) = 3",
                 "turnsAt(1, 2, 0, 1, 1) = 0", "turnsAt(0, 2, 1, 1, 1) = 1");
+        Rows.edge("a PART that there is not any more is not there to take", three, "ashore(0) = 0", "turnsAt(0, 1, NONE, 4, 1) = 0", "begin() = 0",
+                "turnsAt(0, 1, NONE, 4, 1) = NONE", "turnsAt(0, 1, NONE, 4, 0) = 0");
         Rows.edge("what a HOUSE has is not there to take", "sorts 5;house 1;house 2;house 3 0;" + RIVALS, "turnsAt(0, 1, 2, 4, 0) = 0",
                 "turnsAt(0, 1, 2, 4, 1) = NONE", "turnsAt(0, 1, NONE, 4, 1) = NONE");
         Rows.edge("each wants its own less the other's: it takes what is worth nothing to it from the other",
                 "sorts 2;house 1;house 2;house 3;worth 0 0 5;worth 1 1 9;", "ashore(0) = 0", "ashore(1) = 1", "turnsAt(0, 1, NONE, 1, 1) = 0",
                 "turnsAt(0, 1, NONE, 2, 0) = 0", "turnsAt(0, 1, NONE, 2, 1) = 1", "turnsAt(0, 1, NONE, 4, 0) = 0");
+        Rows.edge("it takes from the other what it has itself", "sorts 1;house 1 0;house 2;house 3;worth 0 0 5;worth 1 0 9;", "ashore(0) = 1",
+                "turnsAt(0, 1, NONE, 2, 0) = 5", "turnsAt(0, 1, NONE, 2, 1) = 1", "turnsAt(0, 1, NONE, 1, 1) = NONE");
         Rows.edge("of like ones none ahead of all", three, "ashore(4) = 0", "turnsAt(0, 1, NONE, 4, 0) = 0", "turnsAt(0, 1, NONE, 4, 1) = NONE");
         Rows.edge("of like ones none ahead of all: it has that SORT", "sorts 1;house 1 0;house 2;house 3;worth 0 0 9;", "ashore(0) = 1",
                 "turnsAt(0, 1, NONE, 1, 1) = NONE", "turnsAt(0, 1, NONE, 1, 0) = 9");
@@ -226,6 +236,8 @@ public final class TriedEdgeTest {
                 "turnsAt(0, 1, NONE, 1, 1) = 1");
         Rows.edge("of like ones the least PART: of a later SORT", "sorts 3;house 1;house 2;house 3;worth 0 0 7;worth 0 2 7;", "ashore(1) = 0",
                 "ashore(2) = 1", "ashore(0) = 2", "turnsAt(0, 1, NONE, 1, 1) = 1");
+        Rows.edge("of like ones the least PART: of an earlier SORT", "sorts 3;house 1;house 2;house 3;worth 0 0 7;worth 0 2 7;", "ashore(1) = 0",
+                "ashore(0) = 1", "ashore(2) = 2", "turnsAt(0, 1, NONE, 1, 1) = 1");
         Rows.edge("WEALTH below that of the other", "sorts 4;house 1;house 2 0 1 2 3;house 3;worth 1 0 99;worth 1 1 99;worth 1 2 99;worth 1 3 99;",
                 "turnsAt(0, 1, NONE, 4, 0) = -396", "turnsAt(1, 0, NONE, 4, 0) = 396");
         Rows.edge("UNKNOWN: two of the three alike", three, "! turnsAt(0, 0, NONE, 1, 0) = UNKNOWN", "! turnsAt(0, 1, 0, 1, 0) = UNKNOWN",
@@ -274,6 +286,8 @@ public final class TriedEdgeTest {
                 "begin() = 0", "! judge() = NONE");
         Rows.edge("a PART that there is not any more", FOUR, "ashore(0) = 7", "write(3, 7, true) = 1", "! judge() = NONE", "begin() = 0",
                 "! judge() = 0", "ashore(1) = 7", "! judge() = NONE");
+        Rows.edge("a PART that there is not any more, behind an entry that can be", FOUR, "ashore(0) = 7", "write(0, 0, false) = 1",
+                "write(3, 7, true) = 2", "! judge() = NONE", "begin() = 0", "! judge() = 1");
         Rows.edge("nothing changes by it", FOUR, "write(0, 0, false) = 1", "write(3, 0, true) = 2", "! judge() = NONE", "part(0, 1) = 0",
                 "part(0, 3) = 1", "told(7) = 0");
     }
@@ -323,6 +337,9 @@ public final class TriedEdgeTest {
                 "part(0, 2) = 0", "part(1, 1) = 0", "house(0, 1) = 1", "house(3, 1) = 0", "house(0, 2) = 1", "house(0, 3) = 2");
         Rows.edge("HANDS", FOUR, "toss(0, 0) = 1", "take(3, 0) = 1", "keep(0) = 1", "toss(3, 0) = 0", "take(1, 0) = 3", "goBack(0) = 1",
                 "part(0, 3) = 2", "hand(0, 1) = 3", "hand(0, 2) = NONE");
+        Rows.edge("HANDS: which they were", FOUR, "toss(0, 0) = 1", "take(3, 0) = 1", "toss(2, 6) = 2", "take(1, 6) = 3", "keep(0) = 1", "begin() = 0",
+                "toss(0, 0) = 1", "take(1, 0) = 3", "toss(2, 6) = 2", "take(3, 6) = 1", "goBack(0) = 1", "hand(0, 1) = 3", "hand(6, 1) = 1",
+                "keep(1) = 1", "begin() = 0", "toss(0, 0) = 1", "take(2, 0) = 4", "goBack(1) = 1", "hand(0, 1) = 3");
         Rows.edge("THE WEEK", FOUR, "week(7)", "keep(0) = 1", "begin() = 7", "goBack(0) = 1", "told(4) = 7");
         Rows.edge("THE SEED", FOUR, "seed(7) = 0", "keep(0) = 1", "seed(8) = 7", "goBack(0) = 1", "seed(0) = 7");
         Rows.edge("not THE BOOK", FOUR, "write(0, 0, false) = 1", "keep(0) = 1", "write(0, 1, false) = 2", "goBack(0) = 1", "told(5) = 2",
