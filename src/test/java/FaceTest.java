@@ -133,6 +133,18 @@ public final class FaceTest {
         }
     }
 
+    /** Calls of a class's own functions: all that is brought in from the library goes this way, but for texts. */
+    private static void library(String source) {
+        String code = source.replaceAll("(?s)/\\*.*?\\*/", "").replaceAll("//[^\n]*", "");
+        Set<String> listed = Set.of("Arrays.fill", "System.arraycopy", "Math.min", "Math.max", "Math.abs");
+        Matcher m = Pattern.compile("\\b[A-Z][A-Za-z]*\\.\\w+(?=\\()").matcher(code);
+        while (m.find()) {
+            holds(m.group() + " is of the library's list", listed.contains(m.group()));
+        }
+        holds("texts are not joined by +", !Pattern.compile("\"\\s*\\+|\\+\\s*\"").matcher(code).find());
+        holds("no class without a name", !Pattern.compile("new \\w+\\([^;{]*\\)\\s*\\{").matcher(code).find());
+    }
+
     private static void shortMethods(List<String> lines) {
         int from = -1;
         for (int i = 0; i < lines.size(); i++) {
@@ -150,6 +162,7 @@ public final class FaceTest {
         face();
         classesInside();
         words(Files.readString(SOURCE));
+        library(Files.readString(SOURCE));
         shortMethods(Files.readAllLines(SOURCE));
         System.out.println(wrong == 0 ? "the face is as due" : wrong + " things are not as due");
         if (wrong != 0) {
